@@ -6,6 +6,7 @@ public final class DaysTest {
     days();
     nows();
     nobodyCrosses();
+    theLastDay();
     looks();
     waits();
     due.end();
@@ -66,6 +67,8 @@ public final class DaysTest {
     due.is("wear", x.now(6), 18999);
     due.is("kept in all", x.now(7), 4);
     due.is("now -1", x.now(-1), Due.BEYOND);
+    x.send(0, 0, 0);
+    due.is("more mute ones", x.now(5), 3);
     due.is("now 8", x.now(8), Due.BEYOND);
   }
 
@@ -78,6 +81,31 @@ public final class DaysTest {
     due.is("in another house", x.now(6), 0);
     due.is("still in", x.ofPerson(0, 1), 1);
     due.is("day", x.now(0), 6);
+  }
+
+  /** Farther than the calls that are promised, since none of these comes to the last day. */
+  private static void theLastDay() {
+    TollSills x = Due.quarter("marble;person has 4095");
+    for (int i = 0; i < 1666; i++) {
+      x.go(60);
+    }
+    due.is("day", x.now(0), 99960);
+    due.is("go 40", x.go(40), Due.STATE);
+    due.is("go 61", x.go(61), Due.BEYOND);
+    due.is("go 38", x.go(38), 12);
+    due.is("stroll 2", x.stroll(2), Due.STATE);
+    due.is("stroll 21", x.stroll(21), Due.BEYOND);
+    due.is("z stays", x.count(6), 1);
+    due.is("stroll 1", x.stroll(1), 12);
+    due.is("the last day", x.now(0), 99999);
+    due.is("go 1", x.go(1), Due.STATE);
+    due.is("stroll 1 more", x.stroll(1), Due.STATE);
+    // Looking ahead, the day stays the last one: place 3 of the list, again and again.
+    x.list(3, 0, 0);
+    int crossed = x.ofPerson(0, 2);
+    due.is("looks ahead", x.later(0, 2, 10), Math.min(9999, crossed + 10));
+    x.send(0, 2, 0);
+    due.is("looks ahead from 0", x.later(0, 2, 10), 10);
   }
 
   private static void looks() {

@@ -188,6 +188,8 @@ public final class QuarterTest {
     due.is("in was 1", x.send(0, 1, -1), 1);
     due.is("crossed was", x.send(0, 2, 9999), 0);
     due.is("crossed", x.ofPerson(0, 2), 9999);
+    due.is("crossed was 9999", x.send(0, 2, 0), 9999);
+    x.send(0, 2, 9999);
     int[][] wrong = {{-1, 0, 0}, {1, 0, 0}, {0, -1, 0}, {0, 3, 0}, {0, 0, -1}, {0, 0, 4096},
         {0, 1, -2}, {0, 1, 2}, {0, 2, -1}, {0, 2, 10000}};
     for (int[] w : wrong) {

@@ -35,6 +35,10 @@ public final class SendingTest {
     y.list(0, 1, 0);
     due.is("its one", y.sillFor(0, 1), 0);
     due.is("the other one", y.sillFor(1, 2), 1);
+    TollSills z = Due.quarter("marble;marble;church;person;person;person;person;person;person has 2");
+    z.list(3, 5, 1);
+    z.go(3);
+    due.is("the last one", z.sillFor(3, 1), 2);
   }
 
   private static void kindFor() {
@@ -133,6 +137,10 @@ public final class SendingTest {
     due.is("both are needed", y.mend(0, 5, 4), 6);
     y.change(1, 3, 1);
     due.is("one is mended already", y.mend(0, 5, 4), 4);
+    y.list(4, 0, 0);
+    y.list(5, 0, 0);
+    y.change(1, 3, 0);
+    due.is("all are needed", y.mend(0, 5, 6), 7);
     // The fewest count before the least: {2} comes before {0, 1}.
     TollSills z = Due.quarter("sill;sill;church keeps 7;person has 1;person");
     z.list(0, 1, 2);

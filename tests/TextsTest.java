@@ -91,7 +91,7 @@ public final class TextsTest {
         "person has 99999999999999999999", "person mended", "person;sill;person in 0;person in 2",
         "cross", "cross 6 0 0", "cross 0 6 0", "cross 0 0 8", "cross 0 0", "cross 0 0 0 0", "cross a",
         "cross 0 ; 0", "Sill", "sill,", "sill\tmended", "sill keeps 1-2", "sill keeps 4294967297",
-        "sill\u00e9", "sill;person has 10000", "inn\nmended"};
+        "sill\u00e9", "sill;person has 10000", "inn\nmended", "sillz", "asill", "inn`", "inn{", "inn/", "inn:"};
     int[] places = {
         0, 1, 0, 0, 5, 7, 5, 5, 5, 0,
         10, 11, 11, 11, 13,
@@ -102,7 +102,7 @@ public final class TextsTest {
         11, 7, 34,
         5, 6, 8, 10, 9, 12, 6,
         8, 0, 4, 4, 12, 11,
-        4, 16, 3};
+        4, 16, 3, 0, 0, 3, 3, 3, 3};
     TollSills x = new TollSills();
     for (int i = 0; i < texts.length; i++) {
       due.is("fault of <" + texts[i] + ">", Due.read(x, texts[i]), -1 - places[i]);

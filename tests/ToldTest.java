@@ -33,6 +33,11 @@ public final class ToldTest {
     Due.sheet(x, 0, 8, 4, 0);
     due.is("the other one", x.fits(0, 1), 3);
     due.is("nothing changed", x.now(0) + x.listed(0) + x.now(6), 0);
+    TollSills y = Due.quarter("sill;sill;sill;sill;sill;sill;sill;sill;person;person has 1");
+    Due.sheet(y, 0, 8, 1, 0);
+    due.is("over any of eight", y.fits(0, 1), 8);
+    Due.sheet(y, 0, 8, 1, 1);
+    due.is("over none", y.fits(0, 1), 40);
   }
 
   private static void fitsOnLaterDays() {

@@ -151,7 +151,7 @@ public final class TollSills {
     if (!quarter.isSill(sill) || !isWithin(words, 0, MOST_WORDS_SET)) {
       return tell(BEYOND);
     }
-    int word = quarter.takenOf(sill, words);
+    int word = Kinds.wordTaken(quarter.kindOf[sill], words, quarter.keptSet(sill));
     return word == NOTHING ? tell(NONE) : word;
   }
 
@@ -958,7 +958,7 @@ public final class TollSills {
     }
 
     int keptAt(int sill, int i) {
-      if (!isSill(sill) || !isBelow(i, keptBy[sill])) {
+      if (!isBelow(sill, sills) || !isBelow(i, keptBy[sill])) {
         return NOTHING;
       }
       return kept[sill * MOST_KEPT + i];
@@ -987,10 +987,6 @@ public final class TollSills {
         kept[begin + i] = kept[begin + i + 1];
       }
       keptBy[sill]--;
-    }
-
-    int takenOf(int sill, int words) {
-      return Kinds.wordTaken(kindOf[sill], words, keptSet(sill));
     }
 
     private int placeGiven(int sill) {
@@ -1044,7 +1040,7 @@ public final class TollSills {
 
     private int goIn(int person, int sill) {
       in[person] = sill;
-      int word = takenOf(sill, has[person]);
+      int word = Kinds.wordTaken(kindOf[sill], has[person], keptSet(sill));
       if (word == NOTHING) {
         return NOTHING;
       }
