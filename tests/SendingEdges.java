@@ -60,6 +60,14 @@ final class SendingEdges {
     last.change(3, 3, 1);
     t.is("the last place, not yet", last.sillFor(5, 5), 0);
     t.is("the last place", last.sillFor(5, 6), 3);
+    TollSills lastOne = Towns.full();
+    for (int i = 0; i < 8; i++) {
+      lastOne.change(i, 0, i == 4 ? 1 : 6);
+    }
+    lastOne.list(0, 5, 7);
+    t.is("of the last one", lastOne.sillFor(0, 1), 4);
+    lastOne.send(5, 0, 0);
+    t.is("who loses nothing", lastOne.sillFor(0, 1), 0);
     TollSills few = street(2, 6, 2);
     t.is("one that isn't there", few.sillFor(2, 3), 2);
     t.is("of an empty quarter", new TollSills().sillFor(5, 60), 0);
@@ -269,6 +277,17 @@ final class SendingEdges {
     t.is("of the last place: over any of eight", day5.fits(0, 0), 8);
     Due.sheet(day5, 0, 16, 4095, 4095);
     t.is("of the last place: by nobody there", day5.fits(0, 0), 40);
+    for (int open : new int[] {0, 7}) {
+      TollSills one = Towns.full();
+      for (int i = 0; i < 8; i++) {
+        one.change(i, 0, 0);
+        one.change(i, 3, i == open ? 0 : 1);
+      }
+      Due.sheet(one, 0, 16, 4090, 4090 - 2048);
+      t.is("the last one over sill " + open + " alone", one.fits(0, 5), 1);
+      Due.sheet(one, 0, 16, 4090, 4090);
+      t.is("all but that", one.fits(0, 5), 47);
+    }
     Due.sheet(day5, 0, 16, 4095, 2047, 2047, 2047, 2047, 2047, 2047, 4095);
     t.is("out again six days more", day5.fits(0, 0), 8);
     t.is("the list stays", day5.listed(5), 0);
@@ -307,6 +326,15 @@ final class SendingEdges {
     t.is("another on the last of them", still.kinds(0, 0), 0);
     Due.sheet(still, 0, 8, row(40, -1, -1));
     t.is("any for 40 days", still.kinds(0, 0), 127);
+    TollSills comes = Towns.door(0, 1 << 4);
+    Due.sheet(comes, 0, 8, 0, 1, 0);
+    t.is("one comes and goes", comes.kinds(0, 0), 127 - 32 - 64);
+    Due.sheet(comes, 0, 8, 0, 1, 1);
+    t.is("one comes and stays", comes.kinds(0, 0), 32);
+    Due.sheet(comes, 0, 8, 0, 0);
+    t.is("none comes", comes.kinds(0, 0), 64);
+    Due.sheet(comes, 0, 8, 1, 1);
+    t.is("not from now on", comes.kinds(0, 0), 0);
     int[] holding = {64, 16 | 64, 1 | 16 | 32 | 64, 1 | 2 | 8 | 16 | 32 | 64, 127};
     for (int kept = 2; kept <= 5; kept++) {
       int[] odd = new int[kept];

@@ -56,7 +56,7 @@ final class SheetsEdges {
     t.range("spot", Towns::rich, 0, 9, (y, v) -> y.as(v, 0));
     t.range("kind", Towns::rich, 0, 6, (y, v) -> y.as(9, v));
     t.says("MISSING: it holds nothing.");
-    t.refused("nothing", Towns::rich, Due.MISSING, y -> y.as(0, 0));
+    t.refused("nothing", Towns::rich, Due.MISSING, y -> y.as(4, 0));
     t.is("something", Towns.rich().as(9, 0), 0);
     t.says("KIND: it isn't of that kind, nor of one under it.");
     // The kinds right above and right below each one.
@@ -190,6 +190,11 @@ final class SheetsEdges {
     t.is("the first to the last", x.copy(0, 0, 1, 3, 1), 1);
     holds(x, 1, 6, 4, 5, 1);
     holds(x, 0, 1, 2, 3, 4, 5, 6);
+    x.sheet(3, 16, 4);
+    t.is("the second to the last sheet", x.copy(1, 1, 3, 0, 3), 3);
+    holds(x, 3, 4, 5, 1, 0);
+    t.is("the last to the first sheet", x.copy(3, 0, 0, 4, 2), 2);
+    holds(x, 0, 1, 2, 3, 4, 4, 5);
     TollSills forth = copying();
     t.is("forth within one", forth.copy(0, 0, 0, 1, 5), 5);
     holds(forth, 0, 1, 1, 2, 3, 4, 5);

@@ -78,7 +78,7 @@ final class TermsEdges {
     t.refused("fits of a missing one and nobody", Towns::rich, Due.MISSING, x -> x.fits(3, 9));
     t.refused("kinds of a missing one and no sill", Towns::rich, Due.MISSING, x -> x.kinds(3, 9));
     t.refused("feed 5 to a full tape", Towns::full, Due.BEYOND, x -> x.feed(0, 5));
-    t.refused("nothing as of no kind", Towns::rich, Due.BEYOND, x -> x.as(0, 7));
+    t.refused("nothing as of no kind", Towns::rich, Due.BEYOND, x -> x.as(4, 7));
     t.refused("no such sheet, below 0", Towns::rich, Due.BEYOND, x -> x.sheet(4, 8, -1));
     t.refused("other bits, below 0", Towns::rich, Due.BEYOND, x -> x.sheet(0, 9, -1));
     t.refused("write to a missing one, no such number", Towns::rich, Due.MISSING, x -> x.write(3, -1, 0));
@@ -165,6 +165,15 @@ final class TermsEdges {
       t.is("the last one over the last sill", x.list(i, 0, 7), 57);
       t.is("the first one over the last sill", x.list(i, 5, 0), 7);
       t.is("the last one over the first sill", x.list(i, 0, 0), 50);
+    }
+    int[] crossings = {0, 7, 50, 57};
+    for (int crossing : crossings) {
+      TollSills y = Towns.full();
+      y.list(0, crossing / 10, crossing % 10);
+      y.go(1);
+      t.is("who crosses by " + crossing, y.now(4), 1 << crossing / 10);
+      t.is("over which sill", y.of(crossing % 10, 2), 1);
+      t.is("and no other", y.now(6), 1);
     }
   }
 
@@ -530,6 +539,9 @@ final class TermsEdges {
     text("sill keeps 111", -12);
     text("sill;sill", 2);
     text("   sill   ;   sill   ", 2);
+    text("sillz", -1);
+    text("asill", -1);
+    text("sill z", -6);
     text("Sill", -1);
     text("sill`", -5);
     text("sill{", -5);

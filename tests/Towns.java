@@ -15,14 +15,16 @@ final class Towns {
     for (int i = 0; i < 6; i++) {
       x.list(i, list[i] / 10, list[i] % 10);
     }
-    x.hold(2, 1);
-    x.hold(9, 0);
+    for (int spot = 0; spot < 10; spot++) {
+      x.hold(spot, spot % 3);
+    }
     x.seed(-12345);
     x.go(2);
     x.image();
     x.lay(2, 3);
     x.list(5, 1, 0);
     x.hold(3, 2);
+    x.hold(4, -1);
     x.go(3);
     x.seed(777);
     Due.sheet(x, 0, 8, 5, 9, -1);
