@@ -66,6 +66,9 @@ final class SendingEdges {
     }
     lastOne.list(0, 5, 7);
     t.is("of the last one", lastOne.sillFor(0, 1), 4);
+    lastOne.list(0, 5, 0);
+    lastOne.send(4, 0, 0);
+    t.is("of the last one, over the first sill now", lastOne.sillFor(0, 1), 4);
     lastOne.send(5, 0, 0);
     t.is("who loses nothing", lastOne.sillFor(0, 1), 0);
     TollSills few = street(2, 6, 2);
@@ -277,6 +280,12 @@ final class SendingEdges {
     t.is("of the last place: over any of eight", day5.fits(0, 0), 8);
     Due.sheet(day5, 0, 16, 4095, 4095);
     t.is("of the last place: by nobody there", day5.fits(0, 0), 40);
+    TollSills any = Towns.full();
+    for (int i = 0; i < 8; i++) {
+      any.change(i, 0, 0);
+    }
+    Due.sheet(any, 0, 16, 4090, 4090 - 2048);
+    t.is("the last one over any of eight", any.fits(0, 5), 8);
     for (int open : new int[] {0, 7}) {
       TollSills one = Towns.full();
       for (int i = 0; i < 8; i++) {
