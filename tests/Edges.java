@@ -11,7 +11,8 @@ import java.util.regex.Pattern;
 
 /**
  * Boundary cases under the document's own words: each group of answers quotes the sentence that it
- * holds to, and in the end no word of Terms 1 to 3 and of promises 1 to 45 may be without one.
+ * holds to, and in the end no word of "What it is", of Terms 1 to 3 and of promises 1 to 45 may be
+ * without one.
  */
 final class Edges {
   /** A call with one number left open. */
@@ -28,6 +29,7 @@ final class Edges {
 
   Edges(Path document) throws IOException {
     String text = Files.readString(document);
+    put("What it is", between(text, "## What it is\n", "\n## "));
     String terms = between(text, "## Terms\n", "\nAhead of the calls");
     put("Terms", between(terms, "", "\n1. "));
     put("Terms 1", between(terms, "\n1. ", "\n2. "));
@@ -37,7 +39,7 @@ final class Edges {
     while (promise.find()) {
       put(promise.group(1), promise.group(2));
     }
-    due.is("sections", told.size(), 49);
+    due.is("sections", told.size(), 50);
   }
 
   private static String between(String text, String begin, String end) {

@@ -4,6 +4,7 @@ import java.nio.file.Path;
 public final class EdgesTest {
   public static void main(String[] args) throws Exception {
     Edges t = new Edges(Path.of("../shared/DOC.md"));
+    BeginEdges.run(t);
     TermsEdges.run(t);
     QuarterEdges.run(t);
     DaysEdges.run(t);

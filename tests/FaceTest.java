@@ -4,12 +4,14 @@ import java.lang.reflect.Method;
 import java.lang.reflect.Modifier;
 import java.nio.file.Files;
 import java.nio.file.Path;
+import java.util.ArrayList;
+import java.util.List;
 import java.util.Set;
 import java.util.TreeSet;
 import java.util.regex.Matcher;
 import java.util.regex.Pattern;
 
-/** The public face is the document's, and the class keeps to what can be seen of LANGUAGE.md. */
+/** The public face is the document's, in its order and groups, and nothing else can be seen. */
 public final class FaceTest {
   private static final Due due = new Due();
 
@@ -17,7 +19,7 @@ public final class FaceTest {
     faceIsTheDocuments();
     membersAreHidden();
     namesAreNotUsedTwice();
-    sourceKeepsToTheLanguage();
+    callsStandAsInTheDocument();
     due.end();
   }
 
@@ -95,36 +97,32 @@ public final class FaceTest {
     }
   }
 
-  private static void sourceKeepsToTheLanguage() throws Exception {
-    String source = Files.readString(Path.of("src/main/java/TollSills.java"));
-    String code = source.replaceAll("(?s)/\\*.*?\\*/", " ").replaceAll("//[^\\n]*", " ")
-        .replaceAll("\"[^\"\\n]*\"", "\"\"");
-    String[] ruledOut = {"\\bthrow\\b", "\\btry\\b", "\\bcatch\\b", "\\bsynchronized\\b", "\\bassert\\b", "->", "::",
-        "\\bimport\\b", "\\bpackage\\b", "Exact\\b", "\\bRandom\\b", "\\bThread\\b", "System\\.(?!arraycopy)",
-        "\\bprotected\\b", "\\bnative\\b", "\\bstatic\\s*\\{"};
-    for (String rule : ruledOut) {
-      due.is("the source has " + rule, Pattern.compile(rule).matcher(code).find() ? 1 : 0, 0);
+  private static List<String> names(String text, String pattern) {
+    List<String> names = new ArrayList<>();
+    Matcher m = Pattern.compile(pattern).matcher(text);
+    while (m.find()) {
+      names.add(m.group(1));
     }
-    for (int i = 0; i < source.length(); i++) {
-      if (source.charAt(i) > 126) {
-        due.is("sign " + (int) source.charAt(i), 1, 0);
-      }
-    }
-    methodsAreShort(source);
+    return names;
   }
 
-  private static void methodsAreShort(String source) {
-    int begin = 0;
-    int number = 0;
-    for (String line : source.split("\n")) {
-      number++;
-      if (line.matches(" {2,4}[\\w\\[\\]. ]+\\(.*\\) \\{")) {
-        begin = number;
-      }
-      if (line.matches(" {2,4}\\}") && begin > 0) {
-        due.is("method of line " + begin + " is short", number - begin < 60 ? 1 : 0, 1);
-        begin = 0;
-      }
+  private static void callsStandAsInTheDocument() throws Exception {
+    String document = Files.readString(Path.of("../shared/DOC.md"));
+    String source = Files.readString(Path.of("src/main/java/TollSills.java"));
+    List<String> told = names(document, "(?m)^    public \\w+ (\\w+)\\(.*\\);$");
+    List<String> written = names(source, "(?m)^  public \\w+ (\\w+)\\(.*\\) \\{$");
+    due.is("calls in the document's order", told.equals(written) ? 1 : 0, 1);
+    int calls = 0;
+    Matcher group = Pattern.compile("(?m)^Ahead of the calls (.*) the interface says: (---- .*)\\.$").matcher(document);
+    while (group.find()) {
+      List<String> ahead = names(group.group(1), "`(\\w+)`");
+      int begin = source.indexOf("  // " + group.group(2) + "\n");
+      int end = source.indexOf("  // ----", begin + 1);
+      boolean there = begin >= 0 && end > begin;
+      List<String> under = names(there ? source.substring(begin, end) : "", "(?m)^  public \\w+ (\\w+)\\(");
+      due.is("calls under " + group.group(2), under.equals(ahead) ? 1 : 0, 1);
+      calls += ahead.size();
     }
+    due.is("calls in groups", calls, 44);
   }
 }
